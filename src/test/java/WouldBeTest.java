@@ -1,0 +1,339 @@
+/** Promises 21 to 26: meeting, bestPlace, isSure, ifMissing, closeness, digest. */
+public final class WouldBeTest {
+    private static final Class<IndexOutOfBoundsException> NO_SUCH = IndexOutOfBoundsException.class;
+    private static final Class<IllegalArgumentException> BAD = IllegalArgumentException.class;
+    private static final int[] WRONG_TEAMS = {-1, 4, 8, Integer.MIN_VALUE, Integer.MAX_VALUE};
+    private static final Check check = new Check("WouldBeTest");
+
+    public static void main(String[] args) {
+        meeting();
+        bestPlace();
+        bestPlaceCountsAgainstOthers();
+        isSure();
+        isSureByPointsAlone();
+        ifMissing();
+        ifMissingKeepsResults();
+        closeness();
+        digestOfManyStates();
+        digestFollowsEachPart();
+        check.end();
+    }
+
+    private static void meeting() {
+        for (int teams = 3; teams <= 8; teams++) {
+            QuizFixtures x = new QuizFixtures();
+            x.begin(teams);
+            for (int match = 0; match < x.count(2); match++) {
+                int first = x.match(match, 1);
+                int second = x.match(match, 2);
+                int due = match;
+                check.looks("meeting(" + first + ", " + second + ")", x, due, () -> x.meeting(first, second));
+                check.looks("meeting(" + second + ", " + first + ")", x, due, () -> x.meeting(second, first));
+            }
+        }
+        QuizFixtures x = new QuizFixtures();
+        check.due("meeting(2, 0)", x.meeting(2, 0), 3);
+        check.due("meeting(0, 1)", x.meeting(0, 1), 5);
+        for (int wrong : WRONG_TEAMS) {
+            check.refuses("meeting(" + wrong + ", 0)", x, NO_SUCH, () -> x.meeting(wrong, 0));
+            check.refuses("meeting(0, " + wrong + ")", x, NO_SUCH, () -> x.meeting(0, wrong));
+            check.refuses("meeting(" + wrong + ", " + wrong + ")", x, NO_SUCH, () -> x.meeting(wrong, wrong));
+        }
+        for (int team = 0; team < 4; team++) {
+            int same = team;
+            check.refuses("meeting(" + team + ", " + team + ")", x, BAD, () -> x.meeting(same, same));
+        }
+    }
+
+    private static void best(QuizFixtures x, int... due) {
+        for (int team = 0; team < due.length; team++) {
+            int at = team;
+            check.looks("bestPlace(" + team + ")", x, due[team], () -> x.bestPlace(at));
+        }
+    }
+
+    private static void bestPlace() {
+        QuizFixtures x = new QuizFixtures();
+        best(x, 0, 0, 0, 0);
+        x.stage();
+        x.score(0, 20, 10);
+        x.score(1, 5, 5);
+        x.walkover(2, true);
+        best(x, 0, 1, 0, 0);
+        x.score(5, 99, 0);
+        best(x, 0, 3, 0, 0);
+        for (int team : WRONG_TEAMS) {
+            check.refuses("bestPlace(" + team + ")", x, NO_SUCH, () -> x.bestPlace(team));
+        }
+        QuizFixtures unstaged = new QuizFixtures();
+        for (int number = 0; number < 6; number++) {
+            unstaged.close(number, 127);
+        }
+        unstaged.stage();
+        best(unstaged, 0, 0, 0, 0);
+    }
+
+    private static void bestPlaceCountsAgainstOthers() {
+        // Of 3 teams 1 - 2 and 2 - 0 are played, 0 - 1 is open.
+        QuizFixtures x = new QuizFixtures();
+        x.begin(3);
+        x.stage();
+        x.score(0, 0, 99);
+        x.score(1, 0, 1);
+        // By winning, team 1 has 2 points and the difference 0, team 2 has 2 and 98, team 0 falls to -98.
+        best(x, 0, 1, 0);
+        x.score(0, 98, 0);
+        x.score(1, 98, 0);
+        // By winning, team 0 has 2 points and the difference 1, team 1 falls from 98 to -1, team 2 has 0.
+        best(x, 0, 0, 1);
+        x.score(0, 2, 0);
+        // Team 2 has the difference 96 now.
+        best(x, 1, 0, 0);
+    }
+
+    private static void sure(QuizFixtures x, int... due) {
+        for (int team = 0; team < due.length; team++) {
+            int at = team;
+            check.looks("isSure(" + team + ")", x, due[team], () -> x.isSure(at));
+        }
+    }
+
+    private static void isSure() {
+        QuizFixtures x = new QuizFixtures();
+        sure(x, 0, 0, 0, 0);
+        x.begin(3);
+        x.stage();
+        x.score(1, 0, 1);
+        x.score(2, 1, 0);
+        // Team 0 has 4 points; 1 and 2 have 0 and can have 2.
+        sure(x, 1, 0, 0);
+        x.set(0, 1);
+        sure(x, 1, 0, 0);
+        x.annul(2);
+        sure(x, 0, 0, 0);
+        x.walkover(2, true);
+        sure(x, 1, 0, 0);
+        for (int team : WRONG_TEAMS) {
+            check.refuses("isSure(" + team + ")", x, NO_SUCH, () -> x.isSure(team));
+        }
+        check.refuses("isSure(3) of 3 teams", x, NO_SUCH, () -> x.isSure(3));
+    }
+
+    private static void isSureByPointsAlone() {
+        QuizFixtures x = new QuizFixtures();
+        x.begin(3);
+        x.stage();
+        // 1 - 2, 2 - 0 and 0 - 1: as many points are enough against it, whatever the difference is.
+        x.score(0, 0, 9);
+        x.score(1, 9, 0);
+        x.score(2, 9, 0);
+        sure(x, 0, 0, 1);
+        x.annul(1);
+        sure(x, 0, 0, 0);
+        x.score(1, 5, 5);
+        // 3 points each of 0 and 2.
+        sure(x, 0, 0, 0);
+        // A team that won its matches may be reached by one without a venue, too.
+        QuizFixtures y = new QuizFixtures();
+        y.begin(3);
+        y.stage();
+        y.score(1, 1, 0);
+        for (int number = 0; number < 6; number++) {
+            y.close(number, 127);
+        }
+        y.stage();
+        sure(y, 0, 0, 0);
+        // Equal scores may be given more than winning; what is asked is winning alone.
+        QuizFixtures z = new QuizFixtures();
+        z.begin(3);
+        z.stage();
+        z.set(0, 1);
+        z.set(1, 3);
+        z.score(1, 2, 2);
+        // 2 and 0 have 3, 1 can have 2.
+        sure(z, 0, 0, 0);
+        z.score(2, 1, 0);
+        // 0 has 4, 2 has 3 and can have 4.
+        sure(z, 0, 0, 0);
+        z.score(0, 1, 0);
+        sure(z, 1, 0, 0);
+        z.annul(0);
+        z.score(2, 2, 2);
+        // 0 has 6, 2 and 1 have 3 and can have 4, though 6 by equal scores.
+        sure(z, 1, 0, 0);
+    }
+
+    private static void missing(QuizFixtures x, int... due) {
+        for (int number = 0; number < due.length; number++) {
+            int at = number;
+            check.looks("ifMissing(" + number + ")", x, due[number], () -> x.ifMissing(at));
+        }
+    }
+
+    private static void ifMissing() {
+        QuizFixtures x = new QuizFixtures();
+        missing(x, 6, 6, 6, 6, 6, 6, 6, 6, 6, 6, 6, 6);
+        for (int number = 0; number < 4; number++) {
+            x.close(number, 127);
+        }
+        missing(x, 6, 6, 6, 6, 3, 3, 6, 6, 6, 6, 6, 6);
+        x.close(5, 127);
+        missing(x, 3, 3, 3, 3, 0, 3, 3, 3, 3, 3, 3, 3);
+        check.due("nothing is staged by it", x.count(3), 0);
+        QuizFixtures y = new QuizFixtures();
+        y.begin(8);
+        y.set(3, 1);
+        missing(y, 6, 6, 6, 6, 6, 6, 5, 5, 5, 5, 5, 5);
+        y.away(0, 127);
+        missing(y, 5, 5, 5, 5, 5, 5, 5, 4, 4, 4, 4, 4);
+        for (int number : new int[] {-1, 12, Integer.MIN_VALUE, Integer.MAX_VALUE}) {
+            check.refuses("ifMissing(" + number + ")", x, BAD, () -> x.ifMissing(number));
+        }
+    }
+
+    private static void ifMissingKeepsResults() {
+        QuizFixtures x = new QuizFixtures();
+        x.stage();
+        x.score(0, 20, 10);
+        x.score(1, 5, 5);
+        x.walkover(2, true);
+        missing(x, 3, 3, 3, 3, 3, 3, 3, 3, 3, 3, 3, 3);
+        for (int number = 0; number < 6; number++) {
+            x.away(number, 127);
+        }
+        missing(x, 0, 0, 0, 0, 0, 0, 0, 0, 0, 0, 0, 0);
+        check.due("what is staged stays", x.count(3), 6);
+        check.due("and is no saved state", x.count(9), 6);
+    }
+
+    private static void close(QuizFixtures x, double due) {
+        long before = x.digest();
+        check.dueDouble("closeness()", x.closeness(), due);
+        check.due("closeness() changes nothing", x.digest(), before);
+    }
+
+    private static void closeness() {
+        QuizFixtures x = new QuizFixtures();
+        close(x, 1.0);
+        x.begin(3);
+        x.stage();
+        x.score(0, 1, 0);
+        close(x, 0.0);
+        x.score(1, 2, 2);
+        close(x, 0.5);
+        x.score(2, 3, 3);
+        close(x, 1.0 / 3.0);
+        x.set(1, 0);
+        close(x, 0.0);
+        x.set(1, 1);
+        x.walkover(0, false);
+        x.walkover(1, false);
+        x.walkover(2, true);
+        close(x, -0.5);
+        x.begin(3);
+        x.stage();
+        x.walkover(0, true);
+        x.set(0, 1);
+        close(x, -1.0);
+        x.set(1, 0);
+        x.walkover(1, true);
+        x.walkover(2, true);
+        close(x, 1.0);
+        QuizFixtures noPoints = new QuizFixtures();
+        noPoints.stage();
+        noPoints.set(1, 0);
+        noPoints.score(0, 1, 1);
+        close(noPoints, 1.0);
+        QuizFixtures thirds = new QuizFixtures();
+        thirds.stage();
+        thirds.set(0, 3);
+        thirds.score(0, 1, 0);
+        thirds.score(1, 1, 1);
+        thirds.score(5, 0, 0);
+        close(thirds, 1.0 / 3.0);
+    }
+
+    /** The hash as the document lists it, from the answers of the other calls. */
+    static long hashOf(QuizFixtures x, int[] closed, int[] away, String buffer) {
+        long hash = 3011;
+        for (int what = 0; what < 10; what++) {
+            hash = 31 * hash + x.count(what);
+        }
+        for (int setting = 0; setting < 4; setting++) {
+            hash = 31 * hash + x.setting(setting);
+        }
+        for (int venue = 0; venue < 6; venue++) {
+            hash = 31 * hash + closed[venue];
+        }
+        for (int setter = 0; setter < 6; setter++) {
+            hash = 31 * hash + away[setter];
+        }
+        for (int match = 0; match < x.count(2); match++) {
+            for (int what = 0; what < 9; what++) {
+                hash = 31 * hash + x.match(match, what);
+            }
+        }
+        for (int team = 0; team < x.count(0); team++) {
+            for (int what = 0; what < 9; what++) {
+                hash = 31 * hash + x.team(team, what);
+            }
+            hash = 31 * hash + x.bestPlace(team);
+            hash = 31 * hash + x.isSure(team);
+        }
+        for (int place = 0; place < x.count(0); place++) {
+            hash = 31 * hash + x.table(place);
+        }
+        for (int number = 0; number < 12; number++) {
+            hash = 31 * hash + x.ifMissing(number);
+        }
+        hash = 31 * hash + Double.doubleToLongBits(x.closeness());
+        hash = 31 * hash + buffer.length();
+        for (int at = 0; at < buffer.length(); at++) {
+            hash = 31 * hash + buffer.charAt(at);
+        }
+        return hash;
+    }
+
+    private static void digestOfManyStates() {
+        int[] none = new int[6];
+        check.due("digest of a new object", new QuizFixtures().digest(), hashOf(new QuizFixtures(), none, none, ""));
+        for (int teams = 3; teams <= 8; teams++) {
+            QuizFixtures x = new QuizFixtures();
+            x.begin(teams);
+            x.set(0, 1 + teams % 5);
+            x.set(1, teams % 4);
+            x.set(3, teams);
+            int[] closed = {3, 0, 127, 1, 64, 8};
+            int[] away = {0, 9, 2, 33, 0, 127};
+            for (int number = 0; number < 6; number++) {
+                x.close(number, closed[number]);
+                x.away(number, away[number]);
+            }
+            x.stage();
+            for (int match = 0; match < x.count(2); match++) {
+                if (x.match(match, 3) != QuizFixtures.NONE && match % 3 != 0) {
+                    x.score(match, match * 7 % 30, match * 11 % 30);
+                    check.due("digest", x.digest(), hashOf(x, closed, away, ""));
+                }
+            }
+            Check.write(x, "0=99:1;~!");
+            check.due("digest", x.digest(), hashOf(x, closed, away, "0=99:1;~!"));
+        }
+    }
+
+    private static void digestFollowsEachPart() {
+        QuizFixtures x = new QuizFixtures();
+        long last = x.digest();
+        check.due("digest() changes nothing", x.digest(), last);
+        x.close(0, 1);
+        long closed = x.digest();
+        x.undo();
+        x.away(0, 1);
+        check.dueTrue("another hash for away than for close", closed != x.digest() && closed != last);
+        x.append('0');
+        long nought = x.digest();
+        x.clearBuffer();
+        x.append('1');
+        check.dueTrue("another hash for another character", nought != x.digest());
+    }
+}
