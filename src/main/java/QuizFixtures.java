@@ -935,8 +935,8 @@ public final class QuizFixtures {
     // The buffer, and what its text says as far as it was read.
     private static final class ResultText {
         static final int MOST_CHARACTERS = 60;
-        // The shortest part has 4 characters and a ";", so 60 characters begin 13 parts at most.
-        private static final int MOST_PARTS = 13;
+        // The shortest part has 4 characters and a ";", so 60 characters begin 12 parts at most.
+        private static final int MOST_PARTS = 12;
         private static final int MOST_MATCH_NUMBER = 27;
 
         private static final int BEFORE_MATCH = 0;

@@ -10,6 +10,7 @@ public final class LeagueTest {
         aNewObject();
         beginMakesFixtures();
         beginForgetsAllButSettings();
+        beginForgetsReasonsAndEachMask();
         beginRefuses();
         close();
         away();
@@ -19,6 +20,7 @@ public final class LeagueTest {
         stageTellsReasons();
         stageByLimitAndOwners();
         stageWithFewTeams();
+        aSetterSetsOneMatchOfARound();
         aMatchWithoutSetterTakesNoVenue();
         score();
         walkover();
@@ -107,6 +109,24 @@ public final class LeagueTest {
         check.due("away(4)", x.away(4, 0), 0);
         check.due("buffer stays", x.clearBuffer(), 2);
         check.due("saved states", x.count(9), 6);
+    }
+
+    private static void beginForgetsReasonsAndEachMask() {
+        QuizFixtures x = new QuizFixtures();
+        for (int number = 0; number < 6; number++) {
+            x.close(number, 127);
+            x.away(number, 127);
+        }
+        x.stage();
+        check.due("a reason", x.match(0, 5), 1);
+        x.begin(4);
+        for (int match = 0; match < 6; match++) {
+            check.due("no reason", x.match(match, 5), 0);
+        }
+        for (int number = 0; number < 6; number++) {
+            check.due("close(" + number + ")", x.close(number, 1), 0);
+            check.due("away(" + number + ")", x.away(number, 1), 0);
+        }
     }
 
     private static void beginRefuses() {
@@ -292,6 +312,33 @@ public final class LeagueTest {
         x.away(3, 127);
         check.due("1 - 2 without 0 and 3", x.stage(), 2);
         check.due("1 - 2", x.match(0, 5), 2);
+    }
+
+    private static void aSetterSetsOneMatchOfARound() {
+        QuizFixtures x = new QuizFixtures();
+        x.begin(8);
+        x.set(3, 28);
+        for (int setter = 1; setter < 6; setter++) {
+            x.away(setter, 127);
+        }
+        check.due("one match of each of 7 rounds", x.stage(), 7);
+        for (int round = 0; round < 7; round++) {
+            int match = x.busy(round, 6);
+            check.due("the first one without team 0", match, firstOf(x, round));
+        }
+        // A match with a result keeps its setter from the others of its round.
+        x.score(1, 3, 4);
+        x.away(0, 126);
+        check.due("setter 0 sets one of round 0 already", x.stage(), 0);
+    }
+
+    private static int firstOf(QuizFixtures x, int round) {
+        for (int match = 4 * round; match < 4 * round + 4; match++) {
+            if (x.match(match, 1) != 0 && x.match(match, 2) != 0) {
+                return match;
+            }
+        }
+        return NONE;
     }
 
     private static void aMatchWithoutSetterTakesNoVenue() {

@@ -14,6 +14,7 @@ public final class LooksTest {
         tableByScores();
         tableByNumber();
         tableRefuses();
+        looksFollowEachChange();
         busy();
         count();
         setting();
@@ -147,6 +148,29 @@ public final class LooksTest {
         for (int place : new int[] {4, 7, 8, 9, Integer.MAX_VALUE}) {
             check.looks("table(" + place + ")", x, NONE, () -> x.table(place));
         }
+    }
+
+    /** Each change by a call that answers no points, each look by itself, with no other call between. */
+    private static void looksFollowEachChange() {
+        QuizFixtures x = played();
+        x.annul(0);
+        check.due("team(3, 0) behind annul", x.team(3, 0), 2);
+        x.set(0, 5);
+        check.due("team(3, 0) behind set", x.team(3, 0), 5);
+        x.set(1, 3);
+        check.due("count(6) behind set", x.count(6), 10);
+        x.undo();
+        check.due("count(6) behind undo", x.count(6), 6);
+        x.set(1, 3);
+        x.annul(2);
+        check.due("table(0) behind annul", x.table(0), 1);
+        Check.write(x, "0=0:1");
+        x.report();
+        check.due("team(0, 2) behind report", x.team(0, 2), 1);
+        x.begin(4);
+        check.due("count(6) behind begin", x.count(6), 0);
+        x.undo();
+        check.due("table(0) behind undo", x.table(0), 0);
     }
 
     private static void busy() {

@@ -88,6 +88,10 @@ public final class TextTest {
         Check.write(x, "0=10:12;0=w1;5=0:1");
         check.due("the later one stands", x.report(), 5);
         check.due("a walkover", x.match(0, 8), 2);
+        Check.write(x, "1=5:6");
+        check.due("results", x.report(), 5);
+        check.due("others stay", x.match(0, 8) * 10 + x.match(5, 8), 21);
+        x.undo();
         Check.write(x, "0=w1;0=3:4");
         check.due("results", x.report(), 5);
         check.due("scores", x.match(0, 8) * 10000 + x.match(0, 6) * 100 + x.match(0, 7), 10304);
@@ -175,6 +179,17 @@ public final class TextTest {
         x.begin(8);
         x.undo();
         check.due("the state before begin", x.digest(), scored);
+        for (int number = 0; number < 6; number++) {
+            x.close(number, 127);
+        }
+        x.stage();
+        x.away(0, 1);
+        x.begin(4);
+        x.undo();
+        check.due("the reason is back", x.match(1, 5), 1);
+        x.undo();
+        x.undo();
+        check.due("and away", x.match(1, 5), 0);
     }
 
     private static void change(QuizFixtures x, int at) {

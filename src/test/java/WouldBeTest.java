@@ -9,12 +9,16 @@ public final class WouldBeTest {
         meeting();
         bestPlace();
         bestPlaceCountsAgainstOthers();
+        bestPlaceTakesTheFirstMatch();
+        bestPlaceTakes99To0();
         isSure();
         isSureByPointsAlone();
+        looksFollowEachChange();
         ifMissing();
         ifMissingKeepsResults();
         closeness();
         digestOfManyStates();
+        digestOfShares();
         digestFollowsEachPart();
         check.end();
     }
@@ -91,6 +95,39 @@ public final class WouldBeTest {
         best(x, 1, 0, 0);
     }
 
+    private static void bestPlaceTakesTheFirstMatch() {
+        // Of 3 teams 2 - 0 and 0 - 1 are played, 1 - 2, the match 0, is open.
+        QuizFixtures x = new QuizFixtures();
+        x.begin(3);
+        x.stage();
+        x.score(1, 0, 50);
+        x.score(2, 0, 48);
+        // By winning, team 2 has 2 points and the difference 49, team 1 falls from 48 to -51, team 0 has 2.
+        best(x, 1, 0, 0);
+        x.score(1, 0, 97);
+        x.score(2, 94, 97);
+        // By winning, team 2 has 2 points and the difference 2, team 0 has 94.
+        best(x, 0, 0, 1);
+    }
+
+    /** With 3 points and 99 to 0 as team 2 has, a team is ahead by its number; a point less, and it is not. */
+    private static void bestPlaceTakes99To0() {
+        QuizFixtures first = new QuizFixtures();
+        first.begin(3);
+        first.stage();
+        // 0 - 1 is open: team 0 would win as the first team.
+        first.score(0, 0, 99);
+        first.score(1, 0, 0);
+        best(first, 0, 1, 0);
+        QuizFixtures second = new QuizFixtures();
+        second.begin(3);
+        second.stage();
+        // 0 - 1 is open: team 1 would win as the second team.
+        second.score(0, 0, 0);
+        second.score(1, 99, 0);
+        best(second, 1, 0, 0);
+    }
+
     private static void sure(QuizFixtures x, int... due) {
         for (int team = 0; team < due.length; team++) {
             int at = team;
@@ -163,6 +200,32 @@ public final class WouldBeTest {
         sure(z, 1, 0, 0);
     }
 
+    /** Each change by a call that answers no points, each look by itself, with no other call between. */
+    private static void looksFollowEachChange() {
+        QuizFixtures x = new QuizFixtures();
+        x.begin(3);
+        x.stage();
+        x.score(1, 0, 1);
+        x.score(2, 1, 0);
+        x.annul(2);
+        check.due("isSure(0) behind annul", x.isSure(0), 0);
+        x.undo();
+        check.due("isSure(0) behind undo", x.isSure(0), 1);
+        x.annul(2);
+        x.score(0, 5, 5);
+        check.dueDouble("closeness() behind a score", x.closeness(), 0.5);
+        x.set(0, 4);
+        check.dueDouble("closeness() behind set", x.closeness(), 0.25);
+        x.undo();
+        check.dueDouble("closeness() behind undo", x.closeness(), 0.5);
+        x.annul(1);
+        check.due("bestPlace(0) behind annul", x.bestPlace(0), 0);
+        long annulled = x.digest();
+        x.undo();
+        x.annul(1);
+        check.due("digest() behind annul", x.digest(), annulled);
+    }
+
     private static void missing(QuizFixtures x, int... due) {
         for (int number = 0; number < due.length; number++) {
             int at = number;
@@ -180,6 +243,13 @@ public final class WouldBeTest {
         x.close(5, 127);
         missing(x, 3, 3, 3, 3, 0, 3, 3, 3, 3, 3, 3, 3);
         check.due("nothing is staged by it", x.count(3), 0);
+        QuizFixtures one = new QuizFixtures();
+        for (int number = 1; number < 6; number++) {
+            one.close(number, 127);
+            one.away(number, 127);
+        }
+        // The venue 0 is neutral for 1 - 2, 3 - 1 and 3 - 2, and the setter 0 may set them.
+        missing(one, 0, 3, 3, 3, 3, 3, 0, 3, 3, 3, 3, 3);
         QuizFixtures y = new QuizFixtures();
         y.begin(8);
         y.set(3, 1);
@@ -319,6 +389,49 @@ public final class WouldBeTest {
             Check.write(x, "0=99:1;~!");
             check.due("digest", x.digest(), hashOf(x, closed, away, "0=99:1;~!"));
         }
+    }
+
+    private static void digestIs(QuizFixtures x) {
+        check.due("digest", x.digest(), hashOf(x, new int[6], new int[6], ""));
+    }
+
+    private static void digestOfShares() {
+        QuizFixtures x = new QuizFixtures();
+        x.begin(3);
+        x.stage();
+        x.set(0, 1);
+        x.walkover(0, false);
+        x.walkover(2, true);
+        // Team 1 has -2 points, 0 and 2 have one each.
+        check.dueDouble("closeness()", x.closeness(), -2.0);
+        digestIs(x);
+        x.set(0, 2);
+        check.dueDouble("closeness()", x.closeness(), -1.0);
+        digestIs(x);
+        x.set(0, 3);
+        check.dueDouble("closeness()", x.closeness(), -2.0 / 3.0);
+        digestIs(x);
+        x.score(1, 1, 0);
+        check.due("isSure(2)", x.isSure(2), 1);
+        check.dueDouble("closeness()", x.closeness(), -2.0 / 6.0);
+        digestIs(x);
+        QuizFixtures y = new QuizFixtures();
+        y.begin(8);
+        y.set(0, 1);
+        y.set(3, 28);
+        y.stage();
+        for (int other = 1; other < 4; other++) {
+            int match = y.meeting(0, other);
+            y.walkover(match, y.match(match, 2) == 0);
+        }
+        check.dueDouble("closeness()", y.closeness(), -3.0);
+        digestIs(y);
+        for (int other = 4; other < 8; other++) {
+            int match = y.meeting(0, other);
+            y.walkover(match, y.match(match, 2) == 0);
+        }
+        check.dueDouble("closeness()", y.closeness(), -7.0);
+        digestIs(y);
     }
 
     private static void digestFollowsEachPart() {
