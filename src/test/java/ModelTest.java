@@ -4,6 +4,8 @@ import java.util.Random;
 public final class ModelTest {
     private static final int RUNS = 400;
     private static final int CALLS = 512;
+    /** A written text takes fewer: clearing, 4 parts of 8 characters at most, firstError and report. */
+    private static final int CALLS_OF_A_TEXT = 40;
     private static final String[] NAMES = {"begin", "close", "away", "stage", "score", "walkover", "annul", "set",
         "append", "clearBuffer", "firstError", "report", "undo", "match", "team", "table", "busy", "count", "setting",
         "meeting", "bestPlace", "isSure", "ifMissing", "closeness", "digest"};
@@ -40,7 +42,7 @@ public final class ModelTest {
             both("stage", 0, 0, 0);
         }
         while (calls < CALLS) {
-            if (random.nextInt(25) == 0) {
+            if (random.nextInt(25) == 0 && calls <= CALLS - CALLS_OF_A_TEXT) {
                 write();
                 continue;
             }

@@ -1,4 +1,4 @@
-/** Promises 21 to 26: meeting, bestPlace, isSure, ifMissing, closeness, digest. */
+/** Promises 21 to 25: meeting, bestPlace, isSure, ifMissing, closeness. */
 public final class WouldBeTest {
     private static final Class<IndexOutOfBoundsException> NO_SUCH = IndexOutOfBoundsException.class;
     private static final Class<IllegalArgumentException> BAD = IllegalArgumentException.class;
@@ -17,9 +17,6 @@ public final class WouldBeTest {
         ifMissing();
         ifMissingKeepsResults();
         closeness();
-        digestOfManyStates();
-        digestOfShares();
-        digestFollowsEachPart();
         check.end();
     }
 
@@ -321,132 +318,5 @@ public final class WouldBeTest {
         thirds.score(1, 1, 1);
         thirds.score(5, 0, 0);
         close(thirds, 1.0 / 3.0);
-    }
-
-    /** The hash as the document lists it, from the answers of the other calls. */
-    static long hashOf(QuizFixtures x, int[] closed, int[] away, String buffer) {
-        long hash = 3011;
-        for (int what = 0; what < 10; what++) {
-            hash = 31 * hash + x.count(what);
-        }
-        for (int setting = 0; setting < 4; setting++) {
-            hash = 31 * hash + x.setting(setting);
-        }
-        for (int venue = 0; venue < 6; venue++) {
-            hash = 31 * hash + closed[venue];
-        }
-        for (int setter = 0; setter < 6; setter++) {
-            hash = 31 * hash + away[setter];
-        }
-        for (int match = 0; match < x.count(2); match++) {
-            for (int what = 0; what < 9; what++) {
-                hash = 31 * hash + x.match(match, what);
-            }
-        }
-        for (int team = 0; team < x.count(0); team++) {
-            for (int what = 0; what < 9; what++) {
-                hash = 31 * hash + x.team(team, what);
-            }
-            hash = 31 * hash + x.bestPlace(team);
-            hash = 31 * hash + x.isSure(team);
-        }
-        for (int place = 0; place < x.count(0); place++) {
-            hash = 31 * hash + x.table(place);
-        }
-        for (int number = 0; number < 12; number++) {
-            hash = 31 * hash + x.ifMissing(number);
-        }
-        hash = 31 * hash + Double.doubleToLongBits(x.closeness());
-        hash = 31 * hash + buffer.length();
-        for (int at = 0; at < buffer.length(); at++) {
-            hash = 31 * hash + buffer.charAt(at);
-        }
-        return hash;
-    }
-
-    private static void digestOfManyStates() {
-        int[] none = new int[6];
-        check.due("digest of a new object", new QuizFixtures().digest(), hashOf(new QuizFixtures(), none, none, ""));
-        for (int teams = 3; teams <= 8; teams++) {
-            QuizFixtures x = new QuizFixtures();
-            x.begin(teams);
-            x.set(0, 1 + teams % 5);
-            x.set(1, teams % 4);
-            x.set(3, teams);
-            int[] closed = {3, 0, 127, 1, 64, 8};
-            int[] away = {0, 9, 2, 33, 0, 127};
-            for (int number = 0; number < 6; number++) {
-                x.close(number, closed[number]);
-                x.away(number, away[number]);
-            }
-            x.stage();
-            for (int match = 0; match < x.count(2); match++) {
-                if (x.match(match, 3) != QuizFixtures.NONE && match % 3 != 0) {
-                    x.score(match, match * 7 % 30, match * 11 % 30);
-                    check.due("digest", x.digest(), hashOf(x, closed, away, ""));
-                }
-            }
-            Check.write(x, "0=99:1;~!");
-            check.due("digest", x.digest(), hashOf(x, closed, away, "0=99:1;~!"));
-        }
-    }
-
-    private static void digestIs(QuizFixtures x) {
-        check.due("digest", x.digest(), hashOf(x, new int[6], new int[6], ""));
-    }
-
-    private static void digestOfShares() {
-        QuizFixtures x = new QuizFixtures();
-        x.begin(3);
-        x.stage();
-        x.set(0, 1);
-        x.walkover(0, false);
-        x.walkover(2, true);
-        // Team 1 has -2 points, 0 and 2 have one each.
-        check.dueDouble("closeness()", x.closeness(), -2.0);
-        digestIs(x);
-        x.set(0, 2);
-        check.dueDouble("closeness()", x.closeness(), -1.0);
-        digestIs(x);
-        x.set(0, 3);
-        check.dueDouble("closeness()", x.closeness(), -2.0 / 3.0);
-        digestIs(x);
-        x.score(1, 1, 0);
-        check.due("isSure(2)", x.isSure(2), 1);
-        check.dueDouble("closeness()", x.closeness(), -2.0 / 6.0);
-        digestIs(x);
-        QuizFixtures y = new QuizFixtures();
-        y.begin(8);
-        y.set(0, 1);
-        y.set(3, 28);
-        y.stage();
-        for (int other = 1; other < 4; other++) {
-            int match = y.meeting(0, other);
-            y.walkover(match, y.match(match, 2) == 0);
-        }
-        check.dueDouble("closeness()", y.closeness(), -3.0);
-        digestIs(y);
-        for (int other = 4; other < 8; other++) {
-            int match = y.meeting(0, other);
-            y.walkover(match, y.match(match, 2) == 0);
-        }
-        check.dueDouble("closeness()", y.closeness(), -7.0);
-        digestIs(y);
-    }
-
-    private static void digestFollowsEachPart() {
-        QuizFixtures x = new QuizFixtures();
-        long last = x.digest();
-        check.due("digest() changes nothing", x.digest(), last);
-        x.close(0, 1);
-        long closed = x.digest();
-        x.undo();
-        x.away(0, 1);
-        check.dueTrue("another hash for away than for close", closed != x.digest() && closed != last);
-        x.append('0');
-        long nought = x.digest();
-        x.clearBuffer();
-        x.append('1');
-        check.dueTrue("another hash for another character", nought != x.digest());
     }
 }
