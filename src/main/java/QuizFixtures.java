@@ -498,7 +498,7 @@ public final class QuizFixtures {
             venue[match] = NONE;
             setter[match] = NONE;
             reason[match] = NO_REASON;
-            give(match, NO_RESULT, 0, 0);
+            result[match] = NO_RESULT;
         }
 
         void copyFrom(League other) {

@@ -272,6 +272,24 @@ public final class BeginEdgesTest {
     }
 
     @Says("Begins a league anew: no results, nothing staged, no venue closed, no setter away; settings stay. Undoable.")
+    static void promise02_nothingOfAGreaterLeagueIsLeft() {
+        QuizFixtures x = Edges.staged(8);
+        Edges.playAll(x, 28, true);
+        x.begin(3);
+        for (int round = 0; round < 3; round++) {
+            for (int number = 0; number < 12; number++) {
+                check.due("busy(" + round + ", " + number + ")", x.busy(round, number), Edges.NONE);
+            }
+        }
+        int[] counts = {3, 3, 3, 0, 0, 0, 0, 0, 0};
+        for (int what = 0; what < counts.length; what++) {
+            check.due("count(" + what + ")", x.count(what), counts[what]);
+        }
+        edges.teams(x, 8, 2, 2, 2);
+        edges.table(x, 0, 1, 2);
+    }
+
+    @Says("Begins a league anew: no results, nothing staged, no venue closed, no setter away; settings stay. Undoable.")
     static void promise02_isUndoable() {
         for (int teams = 3; teams <= 8; teams++) {
             int number = teams;

@@ -85,7 +85,8 @@ public final class DigestEdgesTest {
         digest(what, made, "");
     }
 
-    @Says({"The hash starts at 3011.", "For each value v of the following list, in order, the hash becomes 31 * hash + v"})
+    @Says({"The hash starts at 3011.",
+        "For each value v of the following list, in order, the hash becomes 31 * hash + v"})
     static void promise26_theListOfANewObject() {
         List<Long> values = new ArrayList<>();
         add(values, 4, 3, 6, 0, 0, 0, 0, 0, 0, 0);

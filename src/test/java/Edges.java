@@ -18,6 +18,8 @@ final class Edges {
     static final String TWELVE_PARTS = "0=w1;1=w1;2=w1;3=w1;4=w1;5=w1;0=w2;1=w2;2=w2;3=w2;4=w2;5=w2";
     /** Twelve parts with 60 characters: the longest complete text that the buffer can hold. */
     static final String FULL_AND_COMPLETE = "0=1:1;1=w1;2=w1;3=w1;4=w1;5=w1;0=w2;1=w2;2=w2;3=w2;4=w2;5=w2";
+    /** As long, with a score as the twelfth part. */
+    static final String FULL_WITH_A_SCORE_AT_ITS_END = "0=w1;1=w1;2=w1;3=w1;4=w1;5=w1;0=w2;1=w2;2=w2;3=w2;4=w2;5=7:6";
 
     private final Check check;
 

@@ -187,7 +187,8 @@ final class Model {
                 free.add(v);
             }
         }
-        return free.stream().min(Comparator.comparing((Integer v) -> atVenue(s, v)).thenComparing(v -> v)).orElse(null);
+        Comparator<Integer> fewest = Comparator.comparing(v -> atVenue(s, v));
+        return free.stream().min(fewest.thenComparing(v -> v)).orElse(null);
     }
 
     private static Integer setterFor(State s, Match m) {
@@ -199,7 +200,8 @@ final class Model {
                 free.add(t);
             }
         }
-        return free.stream().min(Comparator.comparing((Integer t) -> bySetter(s, t)).thenComparing(t -> t)).orElse(null);
+        Comparator<Integer> fewest = Comparator.comparing(t -> bySetter(s, t));
+        return free.stream().min(fewest.thenComparing(t -> t)).orElse(null);
     }
 
     private static boolean is(Integer held, int number) {

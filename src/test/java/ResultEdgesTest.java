@@ -364,11 +364,12 @@ public final class ResultEdgesTest {
         int[] atFirst = {2, 1, 20, 9};
         for (int setting = 0; setting < 4; setting++) {
             QuizFixtures x = new QuizFixtures();
+            int greatest = GREATEST[setting];
             check.due("the least of " + setting, x.set(setting, LEAST[setting]), atFirst[setting]);
-            check.due("the greatest of " + setting, x.set(setting, GREATEST[setting]), LEAST[setting]);
-            check.due("the same of " + setting, x.set(setting, GREATEST[setting]), GREATEST[setting]);
+            check.due("the greatest of " + setting, x.set(setting, greatest), LEAST[setting]);
+            check.due("the same of " + setting, x.set(setting, greatest), greatest);
             for (int other = 0; other < 4; other++) {
-                check.due("setting(" + other + ")", x.setting(other), other == setting ? GREATEST[other] : atFirst[other]);
+                check.due("setting(" + other + ")", x.setting(other), other == setting ? greatest : atFirst[other]);
             }
         }
     }

@@ -15,7 +15,7 @@ public final class StageEdgesTest {
 
     // ---- none left
 
-    @Says("If there is no venue, it gets neither, for the reason 1; if there is no setter, it gets neither, for the reason 2.")
+    @Says("If there is no venue, it gets neither, for the reason 1;")
     static void promise05_noVenueLeft() {
         QuizFixtures x = Edges.staged(4);
         Edges.closeAllBut(x, Edges.NONE);
@@ -25,7 +25,7 @@ public final class StageEdgesTest {
         edges.properties(x, 5, 1, 1, 1, 1, 1, 1);
     }
 
-    @Says("If there is no venue, it gets neither, for the reason 1; if there is no setter, it gets neither, for the reason 2.")
+    @Says("if there is no setter, it gets neither, for the reason 2.")
     static void promise05_noSetterLeft() {
         QuizFixtures x = Edges.staged(4);
         Edges.sendAwayAllBut(x, Edges.NONE);
@@ -35,7 +35,7 @@ public final class StageEdgesTest {
         edges.properties(x, 5, 2, 2, 2, 2, 2, 2);
     }
 
-    @Says("If there is no venue, it gets neither, for the reason 1; if there is no setter, it gets neither, for the reason 2.")
+    @Says("If there is no venue, it gets neither, for the reason 1;")
     static void promise05_neitherAVenueNorASetterLeft() {
         QuizFixtures x = new QuizFixtures();
         Edges.sendAwayAllBut(x, Edges.NONE);
@@ -64,7 +64,7 @@ public final class StageEdgesTest {
         edges.properties(x, 5, 2, 0, 2, 2, 0, 2, 2, 0, 2, 2, 0, 2, 2, 0, 2);
     }
 
-    @Says("If there is no venue, it gets neither, for the reason 1; if there is no setter, it gets neither, for the reason 2.")
+    @Says("if there is no setter, it gets neither, for the reason 2.")
     static void promise05_aMatchWithoutASetterLeavesItsVenueToTheNext() {
         QuizFixtures x = new QuizFixtures();
         Edges.closeAllBut(x, 5);
@@ -336,6 +336,38 @@ public final class StageEdgesTest {
         x.stage();
         check.due("1 - 4, as 5 sets 2 - 3", x.match(1, 5), 2);
         check.due("2 - 3 is as it was", x.match(2, 4), 5);
+    }
+
+    @Says({"that no match of the round has", "(Matches with a result keep theirs.)"})
+    static void promise05_theVenueOfResultsInAllRoundsIsTakenInEach() {
+        QuizFixtures x = new QuizFixtures();
+        for (int venue = 0; venue < 4; venue++) {
+            x.close(venue, Edges.ALL_ROUNDS);
+        }
+        x.stage();
+        for (int match = 1; match < 6; match += 2) {
+            check.due("venue of " + match, x.match(match, 3), 5);
+            x.score(match, 1, 0);
+        }
+        x.close(4, Edges.ALL_ROUNDS);
+        check.due("stage()", x.stage(), 0);
+        edges.properties(x, 5, 1, 0, 1, 0, 1, 0);
+    }
+
+    @Says({"sets no other match of the round", "(Matches with a result keep theirs.)"})
+    static void promise05_theSetterOfResultsInTwoRoundsIsTakenInEach() {
+        QuizFixtures x = Edges.league(6);
+        Edges.sendAwayAllBut(x, 5);
+        x.away(0, 0);
+        x.stage();
+        // In round 0 the setter 5 sets 2 - 3, in round 1 it sets 2 - 0.
+        x.score(2, 1, 0);
+        x.score(4, 1, 0);
+        edges.properties(x, 4, -1, 0, 5, 0, 5, -1);
+        x.away(0, Edges.ALL_ROUNDS);
+        x.stage();
+        edges.properties(x, 4, -1, -1, 5, -1, 5, -1);
+        edges.properties(x, 5, 2, 2, 0, 2, 0, 2);
     }
 
     @Says("Returns how many of those without a result have a venue then.")

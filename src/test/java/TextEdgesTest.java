@@ -123,7 +123,18 @@ public final class TextEdgesTest {
     @Says("the length of the buffer if there is none.")
     static void promise12_returns60OfAFullBufferWithoutAnError() {
         errorAt(Edges.FULL_AND_COMPLETE, 60);
+        errorAt(Edges.FULL_WITH_A_SCORE_AT_ITS_END, 60);
         errorAt(Edges.TWELVE_PARTS + ";", 60);
+    }
+
+    @Says("Finds the first syntax error of the buffer.")
+    static void promise12_answersTheSameAgain() {
+        QuizFixtures full = holding(Edges.TWELVE_PARTS + "x");
+        QuizFixtures cut = holding("0=w1;1=12:1");
+        for (int time = 0; time < 4; time++) {
+            check.due("of a full buffer", full.firstError(), 59);
+            check.due("of a short one", cut.firstError(), 11);
+        }
     }
 
     @Says("Returns the index of the first character that is a syntax error")
@@ -141,7 +152,8 @@ public final class TextEdgesTest {
         errorAt("0=w3;0=w0", 3);
     }
 
-    @Says({"The buffer is read from left to right;", "a character is a syntax error if no results as a text, of any length,",
+    @Says({"The buffer is read from left to right;",
+        "a character is a syntax error if no results as a text, of any length,",
         "begin with the characters before it and this character."})
     static void promise12_aTextMayGoOnBeyond60Characters() {
         errorAt("10=10:10;11=11:11;12=12:12;13=13:13;14=14:14;15=15:15;16=16:", 60);
@@ -281,7 +293,8 @@ public final class TextEdgesTest {
         reportRefused("5=1:1;x", Edges.BAD);
     }
 
-    @Says("Gives the results in the buffer, one after the other, all or none, and clears the buffer. Undoable, as one call.")
+    @Says({"Gives the results in the buffer, one after the other, all or none, and clears the buffer.",
+        "Undoable, as one call."})
     static void promise13_aFullBufferOfTwelveParts() {
         QuizFixtures x = holding(Edges.FULL_AND_COMPLETE);
         check.due("report()", x.report(), 6);
@@ -290,9 +303,31 @@ public final class TextEdgesTest {
         check.due("undo()", x.undo(), 2);
         edges.properties(x, 8, 0, 0, 0, 0, 0, 0);
         check.due("the buffer stays empty", x.clearBuffer(), 0);
+        QuizFixtures y = holding(Edges.FULL_WITH_A_SCORE_AT_ITS_END);
+        check.due("report()", y.report(), 6);
+        edges.properties(y, 8, 3, 3, 3, 3, 3, 1);
+        check.due("the last scores", y.match(5, 6) * 100 + y.match(5, 7), 706);
     }
 
-    @Says("Gives the results in the buffer, one after the other, all or none, and clears the buffer. Undoable, as one call.")
+    @Says({"Gives the results in the buffer, one after the other, all or none, and clears the buffer.",
+        "Undoable, as one call."})
+    static void promise13_givesNothingOfAnEarlierText() {
+        QuizFixtures x = holding("0=w1;1=2:3;2=w2");
+        x.firstError();
+        x.clearBuffer();
+        Check.write(x, "5=1:1");
+        check.due("report() behind clearBuffer", x.report(), 1);
+        edges.properties(x, 8, 0, 0, 0, 0, 0, 1);
+        Check.write(x, "4=w1;3=w1");
+        check.due("report() behind report", x.report(), 3);
+        x.undo();
+        Check.write(x, "2=0:0");
+        check.due("report() behind undo", x.report(), 2);
+        edges.properties(x, 8, 0, 0, 1, 0, 0, 1);
+    }
+
+    @Says({"Gives the results in the buffer, one after the other, all or none, and clears the buffer.",
+        "Undoable, as one call."})
     static void promise13_theShortestAndTheLongestParts() {
         QuizFixtures x = Edges.staged(8);
         Check.write(x, "0=w1;0=0:0;27=99:99;26=0:99;25=99:0;27=98:97");
@@ -303,7 +338,8 @@ public final class TextEdgesTest {
         check.due("match 27", x.match(27, 6) * 100 + x.match(27, 7), 9897);
     }
 
-    @Says("Gives the results in the buffer, one after the other, all or none, and clears the buffer. Undoable, as one call.")
+    @Says({"Gives the results in the buffer, one after the other, all or none, and clears the buffer.",
+        "Undoable, as one call."})
     static void promise13_theLastOfSeveralForOneMatchStands() {
         QuizFixtures x = holding("0=1:2;0=w1;0=w2;0=3:4");
         check.due("report()", x.report(), 1);
@@ -327,7 +363,8 @@ public final class TextEdgesTest {
         check.due("the other stays", x.match(4, 8), 1);
     }
 
-    @Says("Gives the results in the buffer, one after the other, all or none, and clears the buffer. Undoable, as one call.")
+    @Says({"Gives the results in the buffer, one after the other, all or none, and clears the buffer.",
+        "Undoable, as one call."})
     static void promise13_isUndoneAsOneCall() {
         QuizFixtures x = Edges.staged(5);
         x.score(0, 9, 9);

@@ -179,6 +179,34 @@ public final class UndoEdgesTest {
     }
 
     @Says("all, but the buffer and the saved states.")
+    static void promise14_restoresTheLastMatchOf8Teams() {
+        QuizFixtures x = Edges.staged(8);
+        int venue = x.match(27, 3);
+        int setter = x.match(27, 4);
+        Edges.sendAwayAllBut(x, Edges.NONE);
+        x.stage();
+        check.due("it has no setter", x.match(27, 5), 2);
+        x.undo();
+        check.due("the venue", x.match(27, 3), venue);
+        check.due("the setter", x.match(27, 4), setter);
+        check.due("the reason", x.match(27, 5), 0);
+        x.score(27, 98, 97);
+        x.score(27, 96, 95);
+        x.undo();
+        check.due("the scores", x.match(27, 6) * 100 + x.match(27, 7), 9897);
+        x.walkover(27, true);
+        x.undo();
+        check.due("the kind", x.match(27, 8), 1);
+        x.begin(7);
+        x.begin(8);
+        x.undo();
+        x.undo();
+        check.due("the teams", x.match(27, 1) * 10 + x.match(27, 2), 23);
+        check.due("the round", x.match(27, 0), 6);
+        check.due("the scores", x.match(27, 6) * 100 + x.match(27, 7), 9897);
+    }
+
+    @Says("all, but the buffer and the saved states.")
     static void promise14_restoresReasons() {
         QuizFixtures x = new QuizFixtures();
         x.set(3, 1);

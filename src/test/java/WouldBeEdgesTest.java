@@ -125,6 +125,20 @@ public final class WouldBeEdgesTest {
     }
 
     @Says("by 99 to 0, which counts for the others, too")
+    static void promise22_countsForNoMoreThan99AndAgainstNoLessThan0() {
+        QuizFixtures asFirst = Edges.staged(3);
+        asFirst.score(0, 0, 0);
+        asFirst.score(2, 0, 99);
+        // 2 - 0 is open. With 3 points and 99 to 0, as 1 has, 2 is behind by its number.
+        best(asFirst, 1, 0, 1);
+        QuizFixtures asSecond = Edges.staged(3);
+        asSecond.score(1, 0, 0);
+        asSecond.score(2, 99, 0);
+        // 1 - 2 is open. With 3 points and 99 to 0, as 0 has, 2 is behind by its number.
+        best(asSecond, 0, 1, 1);
+    }
+
+    @Says("by 99 to 0, which counts for the others, too")
     static void promise22_fallsWithinAPointOfTheSamePlace() {
         QuizFixtures x = Edges.staged(3);
         x.score(0, 98, 0);
@@ -149,6 +163,21 @@ public final class WouldBeEdgesTest {
         x.set(0, 1);
         // 3 has 1 - 2 points, and no other team is below 0.
         best(x, 0, 0, 0, 3);
+    }
+
+    @Says("if it won all its matches without a result (also those without a venue) by 99 to 0")
+    static void promise22_theFirstAndTheLastMatchCount() {
+        QuizFixtures first = Edges.staged(3);
+        first.score(1, 0, 1);
+        first.score(2, 0, 0);
+        first.set(1, 2);
+        // 1 - 2, the match 0, is open: with it 1 has 4 points as 0, and the greater difference; 2 has 2.
+        best(first, 0, 0, 1);
+        QuizFixtures last = Edges.staged(3);
+        last.score(0, 0, 1);
+        last.score(1, 1, 1);
+        // 0 - 1, the match 2, is open: with it 0 has 3 points as 2, and the greater difference; 1 has 2.
+        best(last, 0, 1, 0);
     }
 
     @Says("if it won all its matches without a result (also those without a venue) by 99 to 0")
@@ -225,6 +254,26 @@ public final class WouldBeEdgesTest {
         y.score(2, 1, 0);
         // 0 has 2 points and one open match, and so has 2 without any, who can have 4.
         sure(y, 0, 0, 0);
+    }
+
+    @Says("Returns 1 if each other team would have fewer points than it has now")
+    static void promise23_theFirstOrTheLastTeamAloneIsEnoughAgainstIt() {
+        QuizFixtures first = Edges.staged(3);
+        first.set(1, 0);
+        first.score(0, 0, 1);
+        first.score(2, 0, 0);
+        // 2 has 2 points; 2 - 0 is open, and 0 can have 2.
+        sure(first, 0, 0, 0);
+        first.score(1, 0, 0);
+        sure(first, 0, 0, 1);
+        QuizFixtures last = Edges.staged(3);
+        last.set(1, 0);
+        last.score(2, 1, 0);
+        last.score(0, 0, 0);
+        // 0 has 2 points; 2 - 0 is open, and 2 can have 2.
+        sure(last, 0, 0, 0);
+        last.score(1, 0, 0);
+        sure(last, 1, 0, 0);
     }
 
     @Says("also with winning all its matches without a result (also those without a venue), otherwise 0.")
