@@ -14,6 +14,8 @@ public final class FaceTest {
     private static final String OUT = "IndexOutOfBoundsException";
     private static final String BAD = "IllegalArgumentException";
     private static final String NOW = "IllegalStateException";
+    private static final int MOST_PARAMETERS = 7;
+    private static final int MOST_FIELDS = 20;
     private static final Check check = new Check("FaceTest");
 
     public static void main(String[] args) {
@@ -25,6 +27,7 @@ public final class FaceTest {
         fields(face);
         constructors(face);
         classesInside(face);
+        isSmall(face);
         check.end();
     }
 
@@ -98,6 +101,7 @@ public final class FaceTest {
     private static void classesInside(Class<?> face) {
         check.dueTrue("at most twelve classes", face.getDeclaredClasses().length < 12);
         for (Class<?> inside : face.getDeclaredClasses()) {
+            isSmall(inside);
             check.dueTrue(inside.getName() + " is static", Modifier.isStatic(inside.getModifiers()));
             check.dueTrue(inside.getName() + " is not public", !Modifier.isPublic(inside.getModifiers()));
             check.dueTrue(inside.getName() + " is not protected", !Modifier.isProtected(inside.getModifiers()));
@@ -106,5 +110,17 @@ public final class FaceTest {
                 check.dueTrue(field + " is final if static", isConstant || !Modifier.isStatic(field.getModifiers()));
             }
         }
+    }
+
+    /** LANGUAGE.md, rule 11. */
+    private static void isSmall(Class<?> holder) {
+        for (Method method : holder.getDeclaredMethods()) {
+            check.dueTrue(method + " takes few parameters", method.getParameterCount() <= MOST_PARAMETERS);
+        }
+        int fields = 0;
+        for (Field field : holder.getDeclaredFields()) {
+            fields += Modifier.isStatic(field.getModifiers()) ? 0 : 1;
+        }
+        check.dueTrue(holder.getName() + " has few fields", fields <= MOST_FIELDS);
     }
 }

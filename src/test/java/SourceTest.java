@@ -10,7 +10,9 @@ public final class SourceTest {
     private static final String[] FORBIDDEN = {"\\bimport\\b", "^package\\b", "->", "::", "\\btry\\b", "\\bcatch\\b",
         "\\bfinally\\b", "\\bsynchronized\\b", "\\bassert\\b", "\\binstanceof\\b", "\\bObject\\b", "Exact\\(",
         "\\bDouble\\.", "\\bFloat\\.", "\\bInteger\\.", "\\bSystem\\.(?!arraycopy\\()", "\\bMath\\.(?!min\\(|max\\()",
-        "\\bThread\\b", "\\bRandom\\b", "\\b(equals|hashCode|toString)\\(", "\\bprotected\\b", "\\bstatic \\{"};
+        "\\bThread\\b", "\\bRandom\\b", "\\b(equals|hashCode|toString)\\(", "\\bprotected\\b", "\\bstatic \\{",
+        "\"\\s*\\+", "\\+\\s*\"",
+        "\\bthrow\\b(?! new (IllegalState|IllegalArgument|IndexOutOfBounds)Exception\\()"};
     private static final Pattern MEMBER = Pattern.compile("^( {4}| {8})\\S.*\\{$");
     private static final Check check = new Check("SourceTest");
 
